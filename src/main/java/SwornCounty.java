@@ -25,6 +25,7 @@ public final class SwornCounty {
     private static final int FACTS_MOST = 8;
     private static final int THINGS = 8;
     private static final int ALL_THINGS = 255;
+    private static final int SETS = 256;
     private static final int WILL_MOST = 9;
     private static final int ROOM_MOST = 4;
     private static final int HARD_MOST = 9;
@@ -253,13 +254,17 @@ public final class SwornCounty {
     }
 
     public int lone(int county, int what) {
+        County c = told.countyAt(county);
         Standing s = asTold(county);
-        if (s == null) {
+        if (c == null || s == null) {
             return ABSENT;
         }
         if (what < 6) {
             bonds.learn(s);
             return bonds.tell(what);
+        }
+        if (what < 8) {
+            return what == 6 ? Integer.bitCount(c.peace()) : c.peace();
         }
         return counsel.tell(s, what);
     }
@@ -751,6 +756,8 @@ public final class SwornCounty {
         final int[] sworn = new int[OATHS_MOST];
         int folk = 0;
         int oaths = 0;
+        /** What is KEPT, by room and what is OPEN; made when it is asked for first. */
+        private int[] keepable = null;
 
         /** The lines are those of a text without FAULT. */
         County(Rows lines) {
@@ -786,6 +793,49 @@ public final class SwornCounty {
                     oaths++;
                     break;
             }
+        }
+
+        int[] keepableSets() {
+            if (keepable == null) {
+                keepable = new int[(ROOM_MOST + 1) * SETS];
+                for (int places = 1; places <= ROOM_MOST; places++) {
+                    fillKeepable(keepable, places * SETS);
+                }
+            }
+            return keepable;
+        }
+
+        private void fillKeepable(int[] sets, int from) {
+            int fewer = from - SETS;
+            for (int top = 0; top < THINGS; top++) {
+                for (int rest = 0; rest < 1 << top; rest++) {
+                    int without = sets[from + rest];
+                    int with = sets[fewer + (rest & ~clash[top])] | 1 << top;
+                    // A set without the top THING is the lesser number.
+                    boolean more = Integer.bitCount(with) > Integer.bitCount(without);
+                    sets[from + (rest | 1 << top)] = more ? with : without;
+                }
+            }
+        }
+
+        /** PEACE: the most THINGS no two of which CLASH, of several sets the least (bits). */
+        int peace() {
+            int best = 0;
+            for (int set = 1; set < SETS; set++) {
+                if (Integer.bitCount(set) > Integer.bitCount(best) && isPeaceful(set)) {
+                    best = set;
+                }
+            }
+            return best;
+        }
+
+        private boolean isPeaceful(int set) {
+            for (int t = 0; t < THINGS; t++) {
+                if (has(set, t) && (set & clash[t]) != 0) {
+                    return false;
+                }
+            }
+            return true;
         }
 
         int tell(int what) {
@@ -832,9 +882,7 @@ public final class SwornCounty {
         final int[] swore = new int[OATHS_MOST];
         final int[] bound = new int[OATHS_MOST];
         final int[] sworn = new int[OATHS_MOST];
-        /** What is kept, by room and what is open; room for all THINGS, too, which tells PEACE. */
-        private final int[] keepable = new int[(THINGS + 1) * (ALL_THINGS + 1)];
-        private County keepableOf = null;
+        private int[] keepable = new int[0];
 
         void begin(County county) {
             folk = county.folk;
@@ -849,36 +897,16 @@ public final class SwornCounty {
             for (int i = 0; i < visits.length; i++) {
                 visits[i] = 0;
             }
-            if (keepableOf != county) {
-                keepableOf = county;
-                fillKeepable(county.clash);
-            }
-        }
-
-        private void fillKeepable(int[] clash) {
-            for (int places = 1; places <= THINGS; places++) {
-                for (int top = 0; top < THINGS; top++) {
-                    for (int rest = 0; rest < 1 << top; rest++) {
-                        int without = keepable[index(places, rest)];
-                        int with = keepable[index(places - 1, rest & ~clash[top])] | 1 << top;
-                        // A set without the top THING is the lesser number.
-                        boolean more = Integer.bitCount(with) > Integer.bitCount(without);
-                        keepable[index(places, rest | 1 << top)] = more ? with : without;
-                    }
-                }
-            }
-        }
-
-        private static int index(int places, int open) {
-            return places * (ALL_THINGS + 1) + open;
+            keepable = county.keepableSets();
         }
 
         /** What one KEEPS (bits) who has so many places and to whom these THINGS are OPEN. */
         int keptOf(int open, int places) {
-            if (places < 0 || places > THINGS || open < 0 || open > ALL_THINGS) {
+            if (places < 0 || places > ROOM_MOST || open < 0 || open > ALL_THINGS) {
                 return 0;
             }
-            return keepable[index(places, open)];
+            int index = places * SETS + open;
+            return index < keepable.length ? keepable[index] : 0;
         }
 
         boolean isThere(int one) {
@@ -1363,13 +1391,9 @@ public final class SwornCounty {
         private int moreCount = 0;
         private int moreFirst = NONE;
 
-        /** As lone() tells from 6 on. */
+        /** As lone() tells from 8 on. */
         int tell(Standing s, int what) {
             switch (what) {
-                case 6:
-                    return Integer.bitCount(s.keptOf(ALL_THINGS, THINGS));
-                case 7:
-                    return s.keptOf(ALL_THINGS, THINGS);
                 case 8:
                     return hardest(s);
                 case 9:
