@@ -52,6 +52,11 @@ public final class CountyTest {
         C.due("8 no such term", NONE, x.stop(0, -1));
         C.due("8 no deeds", 0, stopOf(COUNTY, ""));
         C.due("8 all can be", 2, stopOf("", "monday;monday;"));
+        Checks.tell(x, 1, NONE, "monday;tire 0;monday;tire 4;");
+        Checks.tell(x, 0, NONE, "");
+        int[][] due = {{10, 3}, {0, 1}};
+        for (int c = 0; c < 2; c++)
+            for (int t = 0; t < 2; t++) C.due("8 stop " + c + " " + t, due[c][t], x.stop(c, t));
     }
 
     private static void promise8DeedsThatCantBe() {
@@ -126,7 +131,13 @@ public final class CountyTest {
         x = Checks.with("folk 3 1;folk 0 0;folk 0 0;likes 0 2;oath 1 0 0;oath 2 0 0;");
         C.due("10 any who swore", 1, x.keeps(0, 0, 1));
         C.due("10 none is broken", 0, x.fall(0, 0));
-        // Five oaths that are broken.
+        // All eight are open: the four least.
+        String eight = "folk 9 4;folk 0 0;";
+        for (int t = 0; t < 8; t++) eight += "oath 1 0 " + t + ";";
+        x = Checks.with(eight);
+        C.due("10 all open", 255, x.keeps(0, 0, 1));
+        C.due("10 the four least", 15, x.keeps(0, 0, 2));
+        // Four oaths that are broken.
         x = Checks.with("folk 0 4;folk 0 4;oath 1 0 0;oath 1 0 1;oath 1 0 2;oath 1 0 2;");
         C.due("10 balance below 0", -4, x.keeps(0, 1, 4));
     }
@@ -178,6 +189,7 @@ public final class CountyTest {
     }
 
     private static void promise12Strikes() {
+        C.due("12 by the first oath", 2, Checks.with("folk 0 1;folk 0 0;oath 1 0 0;").fall(0, 0));
         // 0 clashes with both others: better to strike it than them, though both its oaths go.
         String clash = "folk 9 4;folk 0 0;folk 0 0;clash 0 1;clash 0 2;";
         SwornCounty x = Checks.with(clash + "oath 1 0 0;oath 1 0 1;oath 2 0 2;oath 2 0 1;oath 2 0 0;");
@@ -274,6 +286,11 @@ public final class CountyTest {
         // Though there were twelve.
         x = Checks.with("folk 9 4;folk 9 4;" + Checks.times("oath 1 0 0;", 12));
         C.due("15 a thirteenth", 2, x.dare(0, 1, 0, 1, false));
+        // Nothing but 0 can be opened, by either.
+        x = Checks.with("folk 3 4;folk 3 4;hard 0 3;");
+        int[] one = {0, 1, 0, 0};
+        for (int n = 0; n <= 3; n++) C.due("15 dare for 0 " + n, one[n], x.dare(0, 1, 0, n, false));
+        C.due("15 first", 0, x.dare(0, 0, 1, 2, true));
         // 0 clashes with all others, 1 does not clash with 2.
         x = Checks.with("folk 9 4;folk 9 0;clash 0 1;clash 0 2;clash 0 3;clash 0 4;clash 0 5;clash 0 6;clash 0 7;");
         C.due("15 not the clashing one", 1, x.dare(0, 1, 0, 3, true));
@@ -333,6 +350,15 @@ public final class CountyTest {
         C.due("18 not of will", NONE, x.fits(0, 0, 0, 1));
         C.due("18 least", 5, x.fits(0, 0, 0, 4));
         C.due("18 most", 9, x.fits(0, 0, 0, 5));
+        // One fits: it takes all WILL and ROOM to keep the four; two fit without the last of them.
+        String four = "folk 0 0;folk 0 0;hard 0 9;oath 1 0 0;oath 1 0 1;oath 1 0 2;";
+        x = Checks.with(four + "oath 1 0 3;", null, null, "kept 0 0;kept 0 1;kept 0 2;kept 0 3;");
+        int[] single = {1, 9, 4, 0, 9, 9};
+        for (int what = 0; what < 6; what++) C.due("18 one fits " + what, single[what], x.fits(0, 0, 0, what));
+        C.due("18 the one", 94, x.fits(0, 0, 0, 10));
+        x = Checks.with(four, null, null, "kept 0 0;kept 0 1;kept 0 2;");
+        int[] couple = {2, 9, NONE, 0, 9, 9};
+        for (int what = 0; what < 6; what++) C.due("18 two fit " + what, couple[what], x.fits(0, 0, 0, what));
         // Things of 1 and 9: by whether 6 (5 hard) is kept, the ten wills are parted best.
         x = Checks.with("folk 0 0;folk 0 0;hard 1 1;hard 2 9;oath 1 0 1;oath 1 0 2;oath 1 0 6;", null, null, "kept 0 1;");
         C.due("18 ask", 6, x.fits(0, 0, 0, 3));

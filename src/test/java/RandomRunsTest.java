@@ -97,7 +97,14 @@ public final class RandomRunsTest {
         StringBuilder sb = new StringBuilder();
         int many = below(20) == 0 ? 9 : below(5);
         int n = 1 + below(4);
-        for (int i = 0; i < many; i++) sb.append(below(2) == 0 ? "kept " : "broke ").append(below(n)).append(' ').append(below(8)).append(';');
+        for (int i = 0; i < many; i++) {
+            int p = below(n);
+            int t = below(8);
+            // Mostly what is so, or no log would fit.
+            int kept = other.keeps(0, p, 2);
+            boolean so = kept >= 0 && (kept >> t & 1) == 1;
+            sb.append(so == (below(6) != 0) ? "kept " : "broke ").append(p).append(' ').append(t).append(';');
+        }
         return sb.toString();
     }
 
@@ -201,7 +208,8 @@ public final class RandomRunsTest {
         }
         if (below(3) == 0) for (int w = -2; w <= 6; w++) same("swearers " + w, one.swearers(c, v, w), other.swearers(c, v, w));
         int p = near(6);
-        if (below(2) == 0) for (int w = -1; w <= 14; w++) same("fits " + p + " " + w, one.fits(c, g, p, w), other.fits(c, g, p, w));
+        for (int w = 0; w <= 5; w++) same("fits " + p + " " + w, one.fits(c, g, p, w), other.fits(c, g, p, w));
+        if (below(3) == 0) for (int w = -1; w <= 14; w++) same("fits " + p + " " + w, one.fits(c, g, p, w), other.fits(c, g, p, w));
         int w = 10 + near(50);
         same("fits", one.fits(c, g, p, w), other.fits(c, g, p, w));
     }
@@ -229,7 +237,7 @@ public final class RandomRunsTest {
 
     public static void main(String[] args) {
         int from = args.length > 0 ? Integer.parseInt(args[0]) : 0;
-        int runs = args.length > 1 ? Integer.parseInt(args[1]) : 150;
+        int runs = args.length > 1 ? Integer.parseInt(args[1]) : 400;
         for (int run = from; run < from + runs; run++) new RandomRunsTest(run).go();
         System.out.println(calls + " calls held against the plain county, " + wrong + " wrong");
         if (wrong != 0) System.exit(1);

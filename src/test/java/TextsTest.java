@@ -133,6 +133,8 @@ public final class TextsTest {
         fault("5", 0, "folk 1 1;\tfolk 1 1;", 1, 9);
         fault("5", 0, "Folk 1 1;", 1, 0);
         fault("5", 0, "fol 1 1;", 1, 0);
+        fault("5", 0, "golk 1 1;", 1, 0);
+        fault("5", 0, "fold 1 1;", 1, 0);
         fault("5", 0, "folks 1 1;", 1, 0);
         fault("5", 0, "  folk#1 1;", 1, 6);
         fault("5", 0, "folk 1;", 1, 6);
