@@ -91,14 +91,16 @@ public final class SwornCounty {
     }
 
     public int text(int sort, int at) {
+        int many = told.length;
+        int number = told.placeFor(sort, at);
+        // The tape is taken even where there is no place for its text.
+        told.length = 0;
         told.fault = 0;
         told.place = NONE;
-        int number = told.placeFor(sort, at);
         if (number < 0) {
             return ABSENT;
         }
-        reader.read(told.tape, told.length, sort);
-        told.length = 0;
+        reader.read(told.tape, many, sort);
         told.fault = reader.fault;
         told.place = reader.place;
         if (reader.fault != 0) {
@@ -756,8 +758,6 @@ public final class SwornCounty {
         final int[] sworn = new int[OATHS_MOST];
         int folk = 0;
         int oaths = 0;
-        /** What is KEPT, by room and what is OPEN; made when it is asked for first. */
-        private int[] keepable = null;
 
         /** The lines are those of a text without FAULT. */
         County(Rows lines) {
@@ -795,17 +795,16 @@ public final class SwornCounty {
             }
         }
 
-        int[] keepableSets() {
-            if (keepable == null) {
-                keepable = new int[(ROOM_MOST + 1) * SETS];
-                for (int places = 1; places <= ROOM_MOST; places++) {
-                    fillKeepable(keepable, places * SETS);
-                }
+        /** Nothing is KEPT without ROOM, or of nothing OPEN: there the table is 0 from the first. */
+        void fillKeepable(int[] sets) {
+            for (int places = 1; places <= ROOM_MOST && (places + 1) * SETS <= sets.length; places++) {
+                fillKeepableOf(sets, places);
             }
-            return keepable;
         }
 
-        private void fillKeepable(int[] sets, int from) {
+        /** What is KEPT by those with so many places, by what is OPEN; those with fewer come before. */
+        private void fillKeepableOf(int[] sets, int places) {
+            int from = places * SETS;
             int fewer = from - SETS;
             for (int top = 0; top < THINGS; top++) {
                 for (int rest = 0; rest < 1 << top; rest++) {
@@ -882,7 +881,9 @@ public final class SwornCounty {
         final int[] swore = new int[OATHS_MOST];
         final int[] bound = new int[OATHS_MOST];
         final int[] sworn = new int[OATHS_MOST];
-        private int[] keepable = new int[0];
+        /** What is KEPT, by room and what is OPEN, in the COUNTY that was asked of last. */
+        private final int[] keepable = new int[(ROOM_MOST + 1) * SETS];
+        private County filledFor = null;
 
         void begin(County county) {
             folk = county.folk;
@@ -897,7 +898,10 @@ public final class SwornCounty {
             for (int i = 0; i < visits.length; i++) {
                 visits[i] = 0;
             }
-            keepable = county.keepableSets();
+            if (county != filledFor) {
+                county.fillKeepable(keepable);
+                filledFor = county;
+            }
         }
 
         /** What one KEEPS (bits) who has so many places and to whom these THINGS are OPEN. */

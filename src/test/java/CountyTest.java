@@ -17,6 +17,7 @@ public final class CountyTest {
         promise8DeedsThatCantBe();
         promise9State();
         promise10Keeps();
+        promise10OfEachCounty();
         promise10Visits();
         promise10Hearten();
         promise11Heart();
@@ -140,6 +141,24 @@ public final class CountyTest {
         // Four oaths that are broken.
         x = Checks.with("folk 0 4;folk 0 4;oath 1 0 0;oath 1 0 1;oath 1 0 2;oath 1 0 2;");
         C.due("10 balance below 0", -4, x.keeps(0, 1, 4));
+    }
+
+    /** What CLASHES in one COUNTY counts for no other one, whichever was asked of before. */
+    private static void promise10OfEachCounty() {
+        String three = "folk 9 4;folk 9 4;oath 0 1 0;oath 0 1 1;oath 0 1 2;";
+        SwornCounty x = Checks.with(three);
+        Checks.tell(x, 0, NONE, three + "clash 0 1;");
+        for (int i = 0; i < 2; i++) {
+            C.due("10 all without clashes", 7, x.keeps(0, 1, 2));
+            C.due("10 the least of 5 and 6", 5, x.keeps(1, 1, 2));
+            C.due("10 all broken but these", 2, x.lone(1, 9) ^ 7);
+            C.due("10 none broken", 7, x.lone(0, 9));
+        }
+        x.image(0);
+        Checks.tell(x, 0, 0, three + "clash 0 1;clash 1 2;clash 0 2;");
+        C.due("10 one in the place of one", 1, x.keeps(0, 1, 2));
+        x.again(0);
+        C.due("10 as before", 7, x.keeps(0, 1, 2));
     }
 
     private static void promise10Visits() {

@@ -115,11 +115,11 @@ public final class LanguageTest {
             x.lone(0, 3);
         }
         long each = (threads.getThreadAllocatedBytes(id) - before) / 100;
-        C.due("bytes made by a county: " + each, true, each < 6500);
+        C.due("bytes made by a county: " + each, true, each < 600);
         before = threads.getThreadAllocatedBytes(id);
         for (int i = 0; i < 100; i++) new SwornCounty();
         each = (threads.getThreadAllocatedBytes(id) - before) / 100;
-        C.due("bytes made by an object: " + each, true, each < 8000);
+        C.due("bytes made by an object: " + each, true, each < 12000);
     }
 
     private static int askAll(SwornCounty x) {

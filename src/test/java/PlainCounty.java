@@ -264,12 +264,12 @@ final class PlainCounty {
     }
 
     int text(int sort, int at) {
-        set(all.tape(), 0, NONE);
+        String s = all.tape();
+        set("", 0, NONE);
         if (sort < 0 || sort > 3) return -2;
         int many = count(sort);
         if (at == NONE ? many >= 2 : at < 0 || at >= many) return -2;
         int number = at == NONE ? many : at;
-        String s = all.tape();
         faultNow = 0;
         placeNow = NONE;
         List<Line> lines = parse(s, sort);

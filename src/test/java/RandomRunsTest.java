@@ -143,7 +143,7 @@ public final class RandomRunsTest {
     }
 
     private void tellSome(int sort) {
-        same("end 0", one.end(0), other.end(0));
+        if (below(2) == 0) same("end 0", one.end(0), other.end(0));
         String s = sort == 0 ? county() : sort == 1 ? term() : sort == 2 ? wants() : log();
         tell(spoil(s));
         int at = below(3) == 0 ? below(2) : below(12) == 0 ? near(2) : -1;
@@ -226,7 +226,7 @@ public final class RandomRunsTest {
                 same("again", one.again(k) ? 1 : 0, other.again(k) ? 1 : 0);
             } else if (lot == 8) {
                 tell(log());
-                text(near(4), near(3));
+                if (below(3) != 0) text(near(4), near(3));
             }
             if (i > 3) {
                 askCounty();

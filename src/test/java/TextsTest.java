@@ -11,6 +11,7 @@ public final class TextsTest {
         promise2Feed();
         promise3End();
         promise4Text();
+        promise4NoPlace();
         promise5Fault1();
         promise5Fault2();
         promise5Fault3();
@@ -113,10 +114,34 @@ public final class TextsTest {
         C.due("4 no such sort", -2, Checks.tell(x, 4, NONE, "monday;"));
         C.due("4 fault 0 then", 0, x.fault(0));
         C.due("4 no place then", NONE, x.fault(1));
-        C.due("4 no text is read then", 7, x.end(7));
+        C.due("4 the tape is taken all the same", NONE, x.end(1));
         C.due("4 no such sort", -2, x.text(-1, NONE));
         C.due("4 no such sort", -2, x.text(Integer.MAX_VALUE, 0));
         C.due("4 a text of another sort", NONE, Checks.tell(x, 0, 0, "monday;"));
+    }
+
+    /** Behind -2 no text is read and the FAULT is 0, but the tape is empty as behind any text(). */
+    private static void promise4NoPlace() {
+        int[][] noPlace = {{0, 2}, {0, -2}, {1, 0}, {1, Integer.MIN_VALUE}, {2, Integer.MAX_VALUE}, {3, 1},
+            {0, NONE}, {4, NONE}, {4, 0}, {-1, NONE}, {Integer.MIN_VALUE, 0}, {Integer.MAX_VALUE, 1}};
+        for (int[] p : noPlace) {
+            String call = "4 text(" + p[0] + ", " + p[1] + ")";
+            SwornCounty x = new SwornCounty();
+            Checks.tell(x, 0, NONE, "folk 1 1;");
+            Checks.tell(x, 0, NONE, "folk 2 2;folk 3 3;");
+            C.due(call + " a fault before", NONE, Checks.tell(x, 1, NONE, "nobody;"));
+            Checks.feed(x, "folk 4 4;folk 4 4;folk 4 4;");
+            C.due(call, -2, x.text(p[0], p[1]));
+            C.due(call + " fault", 0, x.fault(0));
+            C.due(call + " place", NONE, x.fault(1));
+            C.due(call + " no text is read", 1, x.county(0, 0));
+            C.due(call + " no text is read", 2, x.county(1, 0));
+            C.due(call + " the tape is empty", 20, x.feed(0, 0, 0, 0, 0));
+            C.due(call + " again", -2, x.text(p[0], p[1]));
+            C.due(call + " with an empty tape", -2, x.text(p[0], p[1]));
+            C.due(call + " the tape is empty", NONE, x.end(1));
+            C.due(call + " the tape is empty", 0, x.end(0));
+        }
     }
 
     private static void fault(String call, int sort, String text, int fault, int place) {
