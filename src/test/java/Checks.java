@@ -1,5 +1,11 @@
+import java.util.function.IntPredicate;
+import java.util.function.IntUnaryOperator;
+
 /** What the tests share: telling texts, and answers that are due. */
 final class Checks {
+    /** Numbers that are far from all that may be. */
+    static final int[] FAR = {Integer.MIN_VALUE, Integer.MIN_VALUE + 1, -65536, -1000, 1000, 65536, Integer.MAX_VALUE - 1, Integer.MAX_VALUE};
+
     private int wrong = 0;
     private int made = 0;
 
@@ -13,6 +19,17 @@ final class Checks {
 
     void due(String call, boolean want, boolean got) {
         due(call, want ? 1 : 0, got ? 1 : 0);
+    }
+
+    /** Whatever number may not be asked with is answered so; fewer calls than the 512 that an object is for. */
+    void others(String call, long want, IntPredicate may, IntUnaryOperator ask) {
+        for (int n = -12; n <= 412; n++) if (!may.test(n)) due(call + " by " + n, want, ask.applyAsInt(n));
+        for (int n : FAR) if (!may.test(n)) due(call + " by " + n, want, ask.applyAsInt(n));
+    }
+
+    /** Numbers from the one up to the other, both of them, may be asked with: all others are answered so. */
+    void outside(int from, int to, String call, long want, IntUnaryOperator ask) {
+        others(call, want, n -> n >= from && n <= to, ask);
     }
 
     /** Prints how many answers were as due and ends with exit code 1 if one was not. */
