@@ -193,7 +193,8 @@ final class PlainCounty {
 
     // ---- texts
 
-    private static final Pattern TOKEN = Pattern.compile("[ \\n]*(?:([a-z]+)|([0-9]+)|(;)|$)", Pattern.DOTALL);
+    /** The end by \z: $ would be found before a last byte 13 or 133, too, and no token would come any more. */
+    private static final Pattern TOKEN = Pattern.compile("[ \\n]*(?:([a-z]+)|([0-9]+)|(;)|\\z)", Pattern.DOTALL);
     private static final String[][] LINES = {
         {"folk:wr", "hard:th", "clash:tt", "likes:ff", "oath:fft"},
         {"monday:", "tire:f", "rest:f", "visit:ff", "court:ff", "cut:ff", "swear:fft"},
